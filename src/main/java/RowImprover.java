@@ -314,6 +314,7 @@ public final class RowImprover {
             return registers & ~(VALUE_MASK << shift) | (value & VALUE_MASK) << shift;
         }
 
+        /** The bits that the registers of a set fill. */
         static int maskOf(int set) {
             int mask = 0;
             for (int number = 0; number < REGISTERS; number++) {
@@ -616,11 +617,11 @@ public final class RowImprover {
         boolean agreeInProgram(Program program, int p, int n, int q, int m, int registers) {
             one.takeFrom(program, p, n);
             other.takeFrom(program, q, m);
-            return agree(one, other, registers);
+            return agree(one, other, Registers.maskOf(registers));
         }
 
-        boolean agree(Row first, Row second, int registers) {
-            int compared = Registers.maskOf(registers);
+        /** Takes the mask of the registers, not their set: it stays the same for many rows. */
+        boolean agree(Row first, Row second, int compared) {
             for (int i = 0; i < STATES; i++) {
                 int number = (latestDifference + i * STRIDE) % STATES;
                 int state = number << FIRST_STATE_BIT;
@@ -684,9 +685,9 @@ public final class RowImprover {
                 if (program.hasRow(place, n)) {
                     row.takeFrom(program, place, n);
                     int found = NOTHING;
-                    int live = liveness.before(place + n);
-                    if (!nothingDoes(live)) {
-                        found = n > 1 ? firstInstruction(live) : NOT_FOUND;
+                    int compared = Registers.maskOf(liveness.before(place + n));
+                    if (!nothingDoes(compared)) {
+                        found = n > 1 ? firstInstruction(compared) : NOT_FOUND;
                     }
                     if (found != NOT_FOUND) {
                         return place + putForRow(place, n, found);
@@ -706,13 +707,13 @@ public final class RowImprover {
             return came;
         }
 
-        private boolean nothingDoes(int live) {
+        private boolean nothingDoes(int compared) {
             candidate.takeNothing();
             lookedAt++;
-            return prover.agree(row, candidate, live);
+            return prover.agree(row, candidate, compared);
         }
 
-        private int firstInstruction(int live) {
+        private int firstInstruction(int compared) {
             int numbers = NUMBERS_ALWAYS | row.numbers();
             for (int operation = ADD; operation <= SHIFT; operation++) {
                 int choices = operation <= LESS ? EVERY_REGISTER : numbers;
@@ -723,7 +724,7 @@ public final class RowImprover {
                                 int code = Code.pack(operation, d, s, t);
                                 candidate.takeOne(code);
                                 lookedAt++;
-                                if (prover.agree(row, candidate, live)) {
+                                if (prover.agree(row, candidate, compared)) {
                                     return code;
                                 }
                             }

@@ -87,6 +87,11 @@ final class FlowTest {
         liveDue("replaced", x, 8, 10, 14);
         x.clear();
         liveDue("cleared", x, 14);
+        // In a round without end nothing but itself could keep a register live.
+        RowImprover round = Desk.typed(Desk.ADD, 0, 1, 3, Desk.JUMP, 0, 0, 0);
+        liveDue("round", round, 10, 10, 14);
+        round.replace(0, Desk.ADD, 0, 0, 2);
+        liveDue("round with another reader", round, 4, 4, 14);
     }
 
     private static void blocksDue(String when, RowImprover x, int... due) {

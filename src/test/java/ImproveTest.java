@@ -61,6 +61,9 @@ final class ImproveTest {
     }
 
     private static void byOne() {
+        improveDue("1 but where all are 0",
+                Desk.typed(Desk.OR, 1, 1, 2, Desk.OR, 1, 1, 3, Desk.LESS, 1, 0, 1), 0,
+                Desk.OR, 1, 1, 2, Desk.OR, 1, 1, 3, Desk.LESS, 1, 0, 1);
         RowImprover two = Desk.typed(Desk.XORN, 2, 2, 15, Desk.ADDN, 2, 2, 1);
         improveDue("minus", two, 1, Desk.SUB, 2, 0, 2);
         check.due("minus: count(1)", two.count(1), 0);
@@ -206,6 +209,21 @@ final class ImproveTest {
         improveDue("behind one", chain, 2, Desk.ADDN, 1, 2, 1, Desk.ADDN, 1, 1, 15);
         improveDue("improved again", chain, 1, Desk.ADD, 1, 0, 2);
         improveDue("improved once more", chain, 0, Desk.ADD, 1, 0, 2);
+        RowImprover later = Desk.typed(Desk.LOAD, 3, 0, 0,
+                Desk.ADDN, 1, 2, 1, Desk.OR, 1, 1, 1, Desk.AND, 1, 1, 1, Desk.ADDN, 1, 1, 15);
+        improveDue("behind one at place 1", later, 2, Desk.LOAD, 3, 0, 0,
+                Desk.ADDN, 1, 2, 1, Desk.ADDN, 1, 1, 15);
+        RowImprover apart = Desk.typed(Desk.XORN, 1, 1, 15, Desk.ADDN, 1, 1, 1,
+                Desk.STORE, 1, 0, 0, Desk.ADD, 2, 2, 0, Desk.STORE, 2, 0, 0);
+        improveDue("two rows apart", apart, 2,
+                Desk.SUB, 1, 0, 1, Desk.STORE, 1, 0, 0, Desk.STORE, 2, 0, 0);
+        countsDue("two rows apart", apart, 2, 1, 1 + 48 + 2 + 1);
+        RowImprover last = new RowImprover();
+        for (int place = 0; place < 23; place++) {
+            last.add(Desk.LOAD, 1, 1, 0);
+        }
+        last.add(Desk.ADD, 2, 2, 0);
+        check.due("the last of 24: improve()", last.improve(), 1);
     }
 
     private static void liveIsFoundAnew() {
