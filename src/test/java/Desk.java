@@ -59,7 +59,7 @@ final class Desk {
         return x;
     }
 
-    /** The values next to the allowed ones, and far ones that a shorter type would take for them. */
+    /** Values next to the allowed ones, and far ones that a shorter type would take for them. */
     static int[] outside(int least, int most) {
         return new int[] {LEAST, least - 65536, least - 256, least - 1,
             most + 1, most + 256, least + 65536, MOST};
@@ -71,6 +71,26 @@ final class Desk {
         for (int i = 0; i < numbers.length && i < 4 * x.size(); i++) {
             check.due(when + ": instruction(" + i / 4 + ", " + i % 4 + ")",
                     x.instruction(i / 4, i % 4), numbers[i]);
+        }
+    }
+
+    static void countsDue(Check check, String when, RowImprover x,
+            int rows, int nothing, int looked) {
+        check.due(when + ": count(0)", x.count(0), rows);
+        check.due(when + ": count(1)", x.count(1), nothing);
+        check.due(when + ": count(2)", x.count(2), looked);
+    }
+
+    static void liveDue(Check check, String when, RowImprover x, int... due) {
+        for (int place = 0; place < due.length; place++) {
+            check.due(when + ": live(" + place + ")", x.live(place), due[place]);
+        }
+    }
+
+    /** An experienced object's start values stand in the results, from one of them on. */
+    static void experienceDue(Check check, String when, RowImprover x, int from) {
+        for (int what = from; what <= 11; what++) {
+            check.due(when + ": result(" + what + ")", x.result(what), what + 2);
         }
     }
 

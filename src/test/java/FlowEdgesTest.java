@@ -11,6 +11,9 @@ final class FlowEdgesTest {
         liveReadsAsSaid();
         liveAtHaltAndTheEnd();
         liveInEitherWay();
+        liveByTheLongestWay();
+        liveInRounds();
+        liveOfAProgramThatChanges();
         liveFromTheGreatestT();
 
         blockBeginsAt0();
@@ -22,16 +25,10 @@ final class FlowEdgesTest {
         check.end();
     }
 
-    private static void liveDue(String when, RowImprover x, int... due) {
-        for (int place = 0; place < due.length; place++) {
-            check.due(when + ": live(" + place + ")", x.live(place), due[place]);
-        }
-    }
-
     /** What one instruction reads: behind it a JUMP to itself reads nothing. */
     private static void readsDue(int operation, int d, int s, int t, int due) {
         String when = "instruction " + operation + " " + d + " " + s + " " + t;
-        liveDue(when, Desk.typed(operation, d, s, t, Desk.JUMP, 0, 0, 1), due, 0, 14);
+        Desk.liveDue(check, when, Desk.typed(operation, d, s, t, Desk.JUMP, 0, 0, 1), due, 0, 14);
     }
 
     // Promise 10: live
@@ -91,23 +88,24 @@ final class FlowEdgesTest {
         for (int operation = Desk.ADD; operation <= Desk.OTHER; operation++) {
             readsDue(operation, 0, 0, 0, 0);
         }
-        liveDue("register 0 is written", Desk.typed(Desk.ADDN, 0, 0, 1), 14, 14);
+        Desk.liveDue(check, "register 0 is written", Desk.typed(Desk.ADDN, 0, 0, 1), 14, 14);
     }
 
     private static void liveIsReadBeforeWritten() {
         check.sentence("Promise 10: it can come that it is read before it is written");
         for (int r = 1; r <= 3; r++) {
             int others = 14 - (1 << r);
-            liveDue("written", Desk.typed(Desk.ADDN, r, 0, 1), others, 14);
-            liveDue("loaded", Desk.typed(Desk.LOAD, r, 0, 1), others, 14);
-            liveDue("stored", Desk.typed(Desk.STORE, r, 0, 1), 14, 14);
-            liveDue("read as it is written", Desk.typed(Desk.ADDN, r, r, 1), 14, 14);
-            liveDue("read, then written", Desk.typed(Desk.STORE, r, 0, 0, Desk.LOAD, r, 0, 0),
-                    14, others, 14);
-            liveDue("written, then read", Desk.typed(Desk.LOAD, r, 0, 0, Desk.STORE, r, 0, 0),
-                    others, 14, 14);
+            Desk.liveDue(check, "written", Desk.typed(Desk.ADDN, r, 0, 1), others, 14);
+            Desk.liveDue(check, "loaded", Desk.typed(Desk.LOAD, r, 0, 1), others, 14);
+            Desk.liveDue(check, "stored", Desk.typed(Desk.STORE, r, 0, 1), 14, 14);
+            Desk.liveDue(check, "read as it is written", Desk.typed(Desk.ADDN, r, r, 1), 14, 14);
+            Desk.liveDue(check, "read, then written",
+                    Desk.typed(Desk.STORE, r, 0, 0, Desk.LOAD, r, 0, 0), 14, others, 14);
+            Desk.liveDue(check, "written, then read",
+                    Desk.typed(Desk.LOAD, r, 0, 0, Desk.STORE, r, 0, 0), others, 14, 14);
         }
-        liveDue("never read", Desk.typed(Desk.ADDN, 1, 0, 1, Desk.JUMP, 0, 0, 0), 0, 0, 14);
+        Desk.liveDue(check, "never read",
+                Desk.typed(Desk.ADDN, 1, 0, 1, Desk.JUMP, 0, 0, 0), 0, 0, 14);
     }
 
     private static void liveReadsAsSaid() {
@@ -132,14 +130,23 @@ final class FlowEdgesTest {
             readsDue(operation, 0, 2, 1, 4);
         }
         readsDue(Desk.JUMP, 0, 0, 1, 0);
+        // One that is used twice is read as well.
+        for (int r = 1; r <= 3; r++) {
+            for (int operation = Desk.STORE; operation <= Desk.OTHER; operation++) {
+                readsDue(operation, r, r, 1, 1 << r);
+            }
+            for (int operation = Desk.ADD; operation <= Desk.LESS; operation++) {
+                readsDue(operation, r, r, r, 1 << r);
+            }
+        }
     }
 
     private static void liveAtHaltAndTheEnd() {
         check.sentence("Promise 10: HALT and the end read all");
-        liveDue("HALT", Desk.typed(Desk.HALT, 0, 0, 0, Desk.JUMP, 0, 0, 1), 14, 0, 14);
-        liveDue("HALT before what writes",
+        Desk.liveDue(check, "HALT", Desk.typed(Desk.HALT, 0, 0, 0, Desk.JUMP, 0, 0, 1), 14, 0, 14);
+        Desk.liveDue(check, "HALT before what writes",
                 Desk.typed(Desk.HALT, 0, 0, 0, Desk.LOAD, 1, 0, 0), 14, 12, 14);
-        liveDue("the end", Desk.typed(Desk.LOAD, 1, 0, 0, Desk.LOAD, 2, 0, 0,
+        Desk.liveDue(check, "the end", Desk.typed(Desk.LOAD, 1, 0, 0, Desk.LOAD, 2, 0, 0,
                 Desk.LOAD, 3, 0, 0), 0, 2, 6, 14);
     }
 
@@ -147,18 +154,25 @@ final class FlowEdgesTest {
         check.sentence("Promise 10: going on in either way where one may go on in two");
         for (int operation = Desk.SAME; operation <= Desk.OTHER; operation++) {
             // Register 1 is compared, register 2 is read on the one way, 3 on the other.
-            liveDue("two ways of " + operation, Desk.typed(
+            Desk.liveDue(check, "two ways of " + operation, Desk.typed(
                     operation, 1, 0, 3,
                     Desk.STORE, 2, 0, 0,
                     Desk.JUMP, 0, 0, 2,
                     Desk.STORE, 3, 0, 0,
                     Desk.JUMP, 0, 0, 4), 14, 4, 0, 8, 0, 14);
-            liveDue("written on one way of " + operation, Desk.typed(
+            // Of a register that is compared with itself no more is known than of others.
+            Desk.liveDue(check, "two ways of " + operation + " of one register", Desk.typed(
+                    operation, 1, 1, 3,
+                    Desk.STORE, 2, 0, 0,
+                    Desk.JUMP, 0, 0, 2,
+                    Desk.STORE, 3, 0, 0,
+                    Desk.JUMP, 0, 0, 4), 14, 4, 0, 8, 0, 14);
+            Desk.liveDue(check, "written on one way of " + operation, Desk.typed(
                     operation, 0, 1, 2,
                     Desk.LOAD, 2, 0, 0,
                     Desk.STORE, 2, 0, 0,
                     Desk.JUMP, 0, 0, 3), 6, 0, 4, 0, 14);
-            liveDue("written on both ways of " + operation, Desk.typed(
+            Desk.liveDue(check, "written on both ways of " + operation, Desk.typed(
                     operation, 0, 1, 3,
                     Desk.LOAD, 2, 0, 0,
                     Desk.JUMP, 0, 0, 4,
@@ -166,19 +180,69 @@ final class FlowEdgesTest {
                     Desk.STORE, 2, 0, 0,
                     Desk.JUMP, 0, 0, 5), 2, 0, 4, 0, 4, 0, 14);
         }
-        liveDue("JUMP goes one way",
+        Desk.liveDue(check, "JUMP goes one way",
                 Desk.typed(Desk.JUMP, 0, 0, 2, Desk.STORE, 1, 0, 0, Desk.JUMP, 0, 0, 2),
                 0, 2, 0, 14);
+    }
+
+    private static void liveByTheLongestWay() {
+        check.sentence("Promise 10: if from there on .. it can come (by the longest way)");
+        // From place 0 to 23, and by jumps back from each place to the one before it.
+        RowImprover back = Desk.typed(Desk.JUMP, 0, 0, 23, Desk.STORE, 1, 2, 0, Desk.JUMP, 0, 0, 2);
+        for (int place = 3; place < 24; place++) {
+            back.add(Desk.JUMP, 0, 0, place == 3 ? 1 : place - 1);
+        }
+        for (int place = 0; place < 24; place++) {
+            check.due("back: live(" + place + ")", back.live(place), place == 2 ? 0 : 6);
+        }
+        // From each place to the next one, up to the end.
+        RowImprover on = Desk.repeated(24, Desk.STORE, 0, 0, 0);
+        for (int place = 0; place <= 24; place++) {
+            check.due("on: live(" + place + ")", on.live(place), 14);
+        }
+    }
+
+    private static void liveInRounds() {
+        check.sentence("Promise 10: if from there on .. it can come (in a round)");
+        // Register 3 is read only at the head of the round, behind the way back.
+        Desk.liveDue(check, "back to the head", Desk.typed(
+                Desk.ADDN, 1, 3, 0,
+                Desk.ADDN, 2, 0, 1,
+                Desk.OTHER, 1, 2, 1,
+                Desk.JUMP, 0, 0, 0), 8, 10, 14, 8, 14);
+        // In a round without end nothing but what is read there is live.
+        Desk.liveDue(check, "without end",
+                Desk.typed(Desk.ADD, 0, 1, 3, Desk.JUMP, 0, 0, 0), 10, 10, 14);
+        Desk.liveDue(check, "without end or reader",
+                Desk.typed(Desk.ADD, 1, 0, 0, Desk.JUMP, 0, 0, 0), 0, 0, 14);
+    }
+
+    private static void liveOfAProgramThatChanges() {
+        check.sentence("Promise 10: The registers that are live (of the program as it is now)");
+        RowImprover x = Desk.typed(Desk.ADDN, 1, 2, 0);
+        Desk.liveDue(check, "one", x, 12, 14);
+        x.add(Desk.ADDN, 2, 0, 1);
+        Desk.liveDue(check, "two", x, 12, 10, 14);
+        x.replace(0, Desk.ADDN, 1, 0, 0);
+        Desk.liveDue(check, "replaced", x, 8, 10, 14);
+        x.clear();
+        Desk.liveDue(check, "cleared", x, 14);
+        RowImprover round = Desk.typed(Desk.ADD, 0, 1, 3, Desk.JUMP, 0, 0, 0);
+        Desk.liveDue(check, "a round", round, 10, 10, 14);
+        round.replace(0, Desk.ADD, 0, 0, 2);
+        Desk.liveDue(check, "a round with another reader", round, 4, 4, 14);
+        round.replace(0, Desk.ADD, 0, 0, 0);
+        Desk.liveDue(check, "a round without a reader", round, 0, 0, 14);
     }
 
     private static void liveFromTheGreatestT() {
         check.sentence("Promise 10: the end read all (at each T where there is no instruction)");
         for (int target = 2; target <= 24; target++) {
-            liveDue("JUMP to " + target,
+            Desk.liveDue(check, "JUMP to " + target,
                     Desk.typed(Desk.JUMP, 0, 0, target, Desk.JUMP, 0, 0, 1), 14, 0, 14);
-            liveDue("SAME to " + target,
+            Desk.liveDue(check, "SAME to " + target,
                     Desk.typed(Desk.SAME, 1, 2, target, Desk.JUMP, 0, 0, 1), 14, 0, 14);
-            liveDue("OTHER to " + target,
+            Desk.liveDue(check, "OTHER to " + target,
                     Desk.typed(Desk.OTHER, 1, 2, target, Desk.JUMP, 0, 0, 1), 14, 0, 14);
         }
         // From place 23 back to place 0, and from place 0 to place 23.

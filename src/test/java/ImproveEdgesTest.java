@@ -25,6 +25,7 @@ final class ImproveEdgesTest {
         eachTMoves();
         tOfOtherOperationsStays();
         goesOnBehind();
+        liveIsFoundAnew();
         answersHowManyLess();
         leavesTheRest();
 
@@ -40,12 +41,6 @@ final class ImproveEdgesTest {
     private static void improveDue(String when, RowImprover x, int less, int... program) {
         check.due(when + ": improve()", x.improve(), less);
         Desk.programDue(check, when, x, program);
-    }
-
-    private static void countsDue(String when, RowImprover x, int rows, int nothing, int looked) {
-        check.due(when + ": count(0)", x.count(0), rows);
-        check.due(when + ": count(1)", x.count(1), nothing);
-        check.due(when + ": count(2)", x.count(2), looked);
     }
 
     /** Nothing, six operations with 3 * 4 * 4 instructions, and four with 3 * 4 a number. */
@@ -67,12 +62,12 @@ final class ImproveEdgesTest {
         RowImprover x = new RowImprover();
         for (int again = 0; again < 3; again++) {
             improveDue("none", x, 0);
-            countsDue("none", x, 0, 0, 0);
+            Desk.countsDue(check, "none", x, 0, 0, 0);
         }
         RowImprover cleared = Desk.repeated(24, Desk.ADD, 1, 1, 0);
         cleared.clear();
         improveDue("cleared", cleared, 0);
-        countsDue("cleared", cleared, 0, 0, 0);
+        Desk.countsDue(check, "cleared", cleared, 0, 0, 0);
     }
 
     private static void fullProgramThatGoes() {
@@ -81,14 +76,14 @@ final class ImproveEdgesTest {
             RowImprover x = Desk.repeated(size, Desk.ADD, 1, 1, 0);
             improveDue("all of " + size, x, size);
             int rows = (size + 2) / 3;
-            countsDue("all of " + size, x, rows, rows, rows);
+            Desk.countsDue(check, "all of " + size, x, rows, rows, rows);
             improveDue("none is left of " + size, x, 0);
-            countsDue("none is left of " + size, x, rows, rows, rows);
+            Desk.countsDue(check, "none is left of " + size, x, rows, rows, rows);
         }
         RowImprover full = Desk.repeated(23, Desk.XORN, 3, 3, 0);
         full.add(Desk.HALT, 0, 0, 0);
         improveDue("23 before HALT", full, 23, Desk.HALT, 0, 0, 0);
-        countsDue("23 before HALT", full, 8, 8, 8);
+        Desk.countsDue(check, "23 before HALT", full, 8, 8, 8);
     }
 
     private static void fullProgramThatStays() {
@@ -97,7 +92,7 @@ final class ImproveEdgesTest {
             RowImprover x = Desk.repeated(24, operation, 0, 0, 0);
             check.due("24 of " + operation + ": improve()", x.improve(), 0);
             check.due("24 of " + operation + ": size()", x.size(), 24);
-            countsDue("24 of " + operation, x, 0, 0, 0);
+            Desk.countsDue(check, "24 of " + operation, x, 0, 0, 0);
         }
         // Each of the 22 rows of 3, 23 of 2 and 24 of 1 is looked at, with the numbers 0, 1, 15.
         RowImprover x = new RowImprover();
@@ -106,7 +101,7 @@ final class ImproveEdgesTest {
             x.add(Desk.ADD, 1 + r, 1 + (r + 1) % 3, 1 + (r + 2) % 3);
         }
         check.due("24 plain: improve()", x.improve(), 0);
-        countsDue("24 plain", x, 0, 0, 22 * all(3) + 23 * all(3) + 24);
+        Desk.countsDue(check, "24 plain", x, 0, 0, 22 * all(3) + 23 * all(3) + 24);
     }
 
     private static void rowsAtTheLastPlaces() {
@@ -114,23 +109,23 @@ final class ImproveEdgesTest {
                 + " as there are such)");
         RowImprover one = endingWith(Desk.ADD, 2, 2, 0);
         check.due("1 at 23: improve()", one.improve(), 1);
-        countsDue("1 at 23", one, 1, 1, 1);
+        Desk.countsDue(check, "1 at 23", one, 1, 1, 1);
         RowImprover two = endingWith(Desk.XORN, 2, 2, 9, Desk.XORN, 2, 2, 9);
         check.due("2 at 22: improve()", two.improve(), 2);
-        countsDue("2 at 22", two, 1, 1, 1);
+        Desk.countsDue(check, "2 at 22", two, 1, 1, 1);
         RowImprover three = endingWith(Desk.ADDN, 3, 3, 5, Desk.ADDN, 3, 3, 5, Desk.ADDN, 3, 3, 6);
         check.due("3 at 21: improve()", three.improve(), 3);
-        countsDue("3 at 21", three, 1, 1, 1);
+        Desk.countsDue(check, "3 at 21", three, 1, 1, 1);
         RowImprover oneStays = endingWith(Desk.ADDN, 2, 2, 1);
         check.due("1 stays: improve()", oneStays.improve(), 0);
-        countsDue("1 stays", oneStays, 0, 0, 1);
+        Desk.countsDue(check, "1 stays", oneStays, 0, 0, 1);
         RowImprover twoStay = endingWith(Desk.ADDN, 2, 2, 1, Desk.ADDN, 3, 3, 1);
         check.due("2 stay: improve()", twoStay.improve(), 0);
-        countsDue("2 stay", twoStay, 0, 0, all(3) + 1 + 1);
+        Desk.countsDue(check, "2 stay", twoStay, 0, 0, all(3) + 1 + 1);
         RowImprover threeStay = endingWith(Desk.ADDN, 1, 1, 1, Desk.ADDN, 2, 2, 1,
                 Desk.ADDN, 3, 3, 1);
         check.due("3 stay: improve()", threeStay.improve(), 0);
-        countsDue("3 stay", threeStay, 0, 0, all(3) + all(3) + 1 + all(3) + 1 + 1);
+        Desk.countsDue(check, "3 stay", threeStay, 0, 0, all(3) + all(3) + 1 + all(3) + 1 + 1);
     }
 
     private static void rowsAtTheFirstPlace() {
@@ -149,18 +144,18 @@ final class ImproveEdgesTest {
         check.sentence("Promise 13: in this order, the first one is taken that can be replaced");
         RowImprover three = Desk.repeated(3, Desk.ADD, 1, 1, 0);
         improveDue("3 before 2 and 1", three, 3);
-        countsDue("3 before 2 and 1", three, 1, 1, 1);
+        Desk.countsDue(check, "3 before 2 and 1", three, 1, 1, 1);
         RowImprover two = Desk.typed(Desk.ADD, 1, 1, 0, Desk.ADD, 1, 1, 0, Desk.STORE, 1, 0, 0);
         improveDue("2 before 1", two, 2, Desk.STORE, 1, 0, 0);
-        countsDue("2 before 1", two, 1, 1, 1);
+        Desk.countsDue(check, "2 before 1", two, 1, 1, 1);
         // No row of 3 and 2 can be replaced, but that of the first one.
         RowImprover one = Desk.typed(Desk.ADDN, 1, 0, 3, Desk.LOAD, 1, 0, 0);
         improveDue("1 alone", one, 1, Desk.LOAD, 1, 0, 0);
-        countsDue("1 alone", one, 1, 1, 1);
+        Desk.countsDue(check, "1 alone", one, 1, 1, 1);
         // That of 2 becomes one before that of 1 becomes nothing: the outcome is the same row.
         RowImprover twoByOne = Desk.typed(Desk.ADD, 3, 3, 0, Desk.ADDN, 2, 2, 6);
         improveDue("2 by one before 1 by nothing", twoByOne, 1, Desk.ADDN, 2, 2, 6);
-        countsDue("2 by one before 1 by nothing", twoByOne, 1, 0, 1 + 288 + 16 + 8 + 3);
+        Desk.countsDue(check, "2 by one before 1 by nothing", twoByOne, 1, 0, 1 + 288 + 16 + 8 + 3);
     }
 
     private static void oneByNothingAlone() {
@@ -168,13 +163,13 @@ final class ImproveEdgesTest {
                 + " instruction (not if it has 1)");
         RowImprover x = Desk.typed(Desk.OR, 1, 2, 2);
         improveDue("1 that ADD would do", x, 0, Desk.OR, 1, 2, 2);
-        countsDue("1 that ADD would do", x, 0, 0, 1);
+        Desk.countsDue(check, "1 that ADD would do", x, 0, 0, 1);
         RowImprover two = Desk.typed(Desk.OR, 1, 2, 2, Desk.OR, 1, 1, 1);
         improveDue("2 that ADD does", two, 1, Desk.ADD, 1, 0, 2);
-        countsDue("2 that ADD does", two, 1, 0, 1 + 3);
+        Desk.countsDue(check, "2 that ADD does", two, 1, 0, 1 + 3);
         RowImprover three = Desk.typed(Desk.OR, 1, 2, 2, Desk.OR, 1, 1, 1, Desk.OR, 1, 1, 2);
         improveDue("3 that ADD does", three, 2, Desk.ADD, 1, 0, 2);
-        countsDue("3 that ADD does", three, 1, 0, 1 + 3);
+        Desk.countsDue(check, "3 that ADD does", three, 1, 0, 1 + 3);
     }
 
     private static void nothingBeforeOne() {
@@ -182,10 +177,10 @@ final class ImproveEdgesTest {
         // ADD 1 0 1 would do as well.
         RowImprover x = Desk.typed(Desk.XORN, 1, 1, 9, Desk.XORN, 1, 1, 9);
         improveDue("nothing", x, 2);
-        countsDue("nothing", x, 1, 1, 1);
+        Desk.countsDue(check, "nothing", x, 1, 1, 1);
         RowImprover dead = Desk.typed(Desk.ADDN, 1, 1, 9, Desk.ADDN, 2, 2, 9, Desk.JUMP, 0, 0, 2);
         improveDue("nothing is live", dead, 2, Desk.JUMP, 0, 0, 0);
-        countsDue("nothing is live", dead, 1, 1, 1);
+        Desk.countsDue(check, "nothing is live", dead, 1, 1, 1);
     }
 
     private static void firstAndLastCandidates() {
@@ -193,19 +188,19 @@ final class ImproveEdgesTest {
                 + " T (0 to 3, ..)");
         RowImprover first = Desk.typed(Desk.XOR, 1, 2, 2, Desk.AND, 1, 1, 3);
         improveDue("the first", first, 1, Desk.ADD, 1, 0, 0);
-        countsDue("the first", first, 1, 0, 1 + 1);
+        Desk.countsDue(check, "the first", first, 1, 0, 1 + 1);
         RowImprover add = Desk.typed(Desk.SHIFT, 3, 3, 1, Desk.OR, 3, 3, 3);
         improveDue("the last ADD", add, 1, Desk.ADD, 3, 3, 3);
-        countsDue("the last ADD", add, 1, 0, 1 + 48);
+        Desk.countsDue(check, "the last ADD", add, 1, 0, 1 + 48);
         RowImprover sub = Desk.typed(Desk.XORN, 1, 1, 15, Desk.ADDN, 1, 1, 1);
         improveDue("SUB", sub, 1, Desk.SUB, 1, 0, 1);
-        countsDue("SUB", sub, 1, 0, 1 + 48 + 2);
+        Desk.countsDue(check, "SUB", sub, 1, 0, 1 + 48 + 2);
         RowImprover less = Desk.typed(Desk.LESS, 3, 3, 2, Desk.ANDN, 3, 3, 1);
         improveDue("LESS", less, 1, Desk.LESS, 3, 3, 2);
-        countsDue("LESS", less, 1, 0, 1 + 5 * 48 + 32 + 12 + 3);
+        Desk.countsDue(check, "LESS", less, 1, 0, 1 + 5 * 48 + 32 + 12 + 3);
         RowImprover shift = Desk.typed(Desk.SHIFT, 3, 3, 2, Desk.ANDN, 3, 3, 15);
         improveDue("the last but one", shift, 1, Desk.SHIFT, 3, 3, 2);
-        countsDue("the last but one", shift, 1, 0, all(4) - 1);
+        Desk.countsDue(check, "the last but one", shift, 1, 0, all(4) - 1);
         // The lesser S first: 1 + 2, not 2 + 1; the lesser T first, and D before S.
         improveDue("S first", Desk.typed(Desk.ADD, 3, 2, 1, Desk.OR, 3, 3, 3), 1,
                 Desk.ADD, 3, 1, 2);
@@ -219,11 +214,11 @@ final class ImproveEdgesTest {
             int other = d % 3 + 1;
             RowImprover x = Desk.typed(Desk.XOR, d, other, other, Desk.ANDN, d, d, 7);
             improveDue("0 in register " + d, x, 1, Desk.ADD, d, 0, 0);
-            countsDue("0 in register " + d, x, 1, 0, 1 + 16 * (d - 1) + 1);
+            Desk.countsDue(check, "0 in register " + d, x, 1, 0, 1 + 16 * (d - 1) + 1);
         }
         RowImprover lost = Desk.typed(Desk.ADDN, 0, 1, 7, Desk.XOR, 0, 2, 3);
         improveDue("lost in register 0", lost, 2);
-        countsDue("lost in register 0", lost, 1, 1, 1);
+        Desk.countsDue(check, "lost in register 0", lost, 1, 1, 1);
     }
 
     private static void numbersAlwaysTried() {
@@ -240,8 +235,13 @@ final class ImproveEdgesTest {
             RowImprover x = Desk.typed(Desk.ADD, 1, 1, 2, Desk.LESS, 2, 2, 3,
                     Desk.ANDN, 3, 1, number);
             check.due("number " + number + ": improve()", x.improve(), 0);
-            countsDue("number " + number, x, 0, 0, all(3) + all(3) + 1 + all(3) + 1 + 1);
+            Desk.countsDue(check, "number " + number, x,
+                    0, 0, all(3) + all(3) + 1 + all(3) + 1 + 1);
         }
+        RowImprover each = Desk.typed(Desk.ANDN, 1, 2, 0, Desk.ADDN, 2, 2, 1, Desk.XORN, 3, 3, 15);
+        check.due("numbers 0, 1, 15: improve()", each.improve(), 0);
+        Desk.countsDue(check, "numbers 0, 1, 15", each,
+                0, 0, all(3) + all(3) + 1 + all(3) + 1 + 1);
     }
 
     private static void numbersOfTheRow() {
@@ -251,18 +251,18 @@ final class ImproveEdgesTest {
                 boolean always = number <= 1 || number == 15;
                 RowImprover x = Desk.typed(operation, 1, 2, number, Desk.ADD, 3, 3, 3);
                 check.due("number " + number + ": improve()", x.improve(), 0);
-                countsDue("number " + number + " of " + operation, x,
+                Desk.countsDue(check, "number " + number + " of " + operation, x,
                         0, 0, all(always ? 3 : 4) + 1 + 1);
             }
         }
         for (int operation = Desk.ADD; operation <= Desk.LESS; operation++) {
             RowImprover x = Desk.typed(operation, 1, 1, 3, operation, 3, 3, 2);
             check.due("operation " + operation + ": improve()", x.improve(), 0);
-            countsDue("no number of " + operation, x, 0, 0, all(3) + 1 + 1);
+            Desk.countsDue(check, "no number of " + operation, x, 0, 0, all(3) + 1 + 1);
         }
         RowImprover three = Desk.typed(Desk.ADDN, 1, 1, 2, Desk.XORN, 2, 2, 14, Desk.ANDN, 3, 3, 7);
         check.due("three numbers: improve()", three.improve(), 0);
-        countsDue("three numbers", three, 0, 0, all(6) + all(5) + 1 + all(5) + 1 + 1);
+        Desk.countsDue(check, "three numbers", three, 0, 0, all(6) + all(5) + 1 + all(5) + 1 + 1);
         // The number of an instruction beside the row is none of the row's.
         improveDue("beside the row", Desk.typed(Desk.ADDN, 1, 2, 1, Desk.ADDN, 1, 1, 1,
                 Desk.STORE, 1, 0, 2, Desk.ADDN, 3, 3, 2), 0, Desk.ADDN, 1, 2, 1,
@@ -274,14 +274,14 @@ final class ImproveEdgesTest {
         // Of 0, 1, 6, 9 and 15 the third and the fourth; behind ADDN 1 0 and ADDN 1 1.
         RowImprover six = Desk.typed(Desk.XORN, 1, 0, 9, Desk.ANDN, 1, 1, 6, Desk.ADDN, 1, 2, 6);
         improveDue("6", six, 2, Desk.ADDN, 1, 2, 6);
-        countsDue("6", six, 1, 0, 1 + 288 + 2 * 5 + 3);
+        Desk.countsDue(check, "6", six, 1, 0, 1 + 288 + 2 * 5 + 3);
         RowImprover nine = Desk.typed(Desk.XORN, 1, 0, 9, Desk.ANDN, 1, 1, 6, Desk.ADDN, 1, 2, 9);
         improveDue("9", nine, 2, Desk.ADDN, 1, 2, 9);
-        countsDue("9", nine, 1, 0, 1 + 288 + 2 * 5 + 4);
+        Desk.countsDue(check, "9", nine, 1, 0, 1 + 288 + 2 * 5 + 4);
         RowImprover fifteen = Desk.typed(Desk.XORN, 1, 0, 9, Desk.ANDN, 1, 1, 6,
                 Desk.ADDN, 1, 2, 15);
         improveDue("15", fifteen, 2, Desk.ADDN, 1, 2, 15);
-        countsDue("15", fifteen, 1, 0, 1 + 288 + 2 * 5 + 5);
+        Desk.countsDue(check, "15", fifteen, 1, 0, 1 + 288 + 2 * 5 + 5);
     }
 
     private static void sameInAllStates() {
@@ -363,7 +363,7 @@ final class ImproveEdgesTest {
             RowImprover x = Desk.typed(Desk.XORN, 1, 1, 3, operation, 0, 0, t, Desk.XORN, 1, 1, 3);
             improveDue("parted by " + operation, x, 0,
                     Desk.XORN, 1, 1, 3, operation, 0, 0, t, Desk.XORN, 1, 1, 3);
-            countsDue("parted by " + operation, x, 0, 0, 1 + 1);
+            Desk.countsDue(check, "parted by " + operation, x, 0, 0, 1 + 1);
         }
         // LOAD to register 0 does nothing, but is no row.
         improveDue("LOAD to register 0", Desk.typed(Desk.LOAD, 0, 0, 0), 0, Desk.LOAD, 0, 0, 0);
@@ -458,7 +458,7 @@ final class ImproveEdgesTest {
         RowImprover nothing = Desk.typed(Desk.XORN, 1, 1, 9, Desk.XORN, 1, 1, 9,
                 Desk.STORE, 1, 0, 0, Desk.XORN, 2, 2, 9, Desk.XORN, 2, 2, 9, Desk.ADD, 3, 3, 0);
         improveDue("behind nothing", nothing, 5, Desk.STORE, 1, 0, 0);
-        countsDue("behind nothing", nothing, 2, 2, 2);
+        Desk.countsDue(check, "behind nothing", nothing, 2, 2, 2);
         // Behind one instruction: it begins no row of the same improving.
         RowImprover one = Desk.typed(Desk.ADDN, 1, 2, 1, Desk.OR, 1, 1, 1, Desk.AND, 1, 1, 1,
                 Desk.ADDN, 1, 1, 15);
@@ -468,7 +468,26 @@ final class ImproveEdgesTest {
         check.sentence("Promise 13: Where none is replaced, one goes on at the next place.");
         RowImprover later = Desk.typed(Desk.ADDN, 1, 1, 4, Desk.LOAD, 2, 0, 0, Desk.ADD, 3, 3, 0);
         improveDue("at the next places", later, 1, Desk.ADDN, 1, 1, 4, Desk.LOAD, 2, 0, 0);
-        countsDue("at the next places", later, 1, 1, 1 + 1);
+        Desk.countsDue(check, "at the next places", later, 1, 1, 1 + 1);
+    }
+
+    private static void liveIsFoundAnew() {
+        check.sentence("Promise 13: all that is live having been found anew");
+        // When the reader of register 2 has gone, what wrote it in the round is dead.
+        RowImprover x = Desk.typed(
+                Desk.JUMP, 0, 0, 3,
+                Desk.ADD, 1, 2, 0,
+                Desk.JUMP, 0, 0, 3,
+                Desk.LOAD, 1, 0, 0,
+                Desk.ADDN, 2, 0, 3,
+                Desk.JUMP, 0, 0, 1);
+        check.due("register 2 is live before", x.live(5), 4);
+        improveDue("dead by what has gone", x, 2,
+                Desk.JUMP, 0, 0, 2,
+                Desk.JUMP, 0, 0, 2,
+                Desk.LOAD, 1, 0, 0,
+                Desk.JUMP, 0, 0, 1);
+        check.due("dead by what has gone: count(1)", x.count(1), 2);
     }
 
     private static void answersHowManyLess() {
@@ -481,7 +500,7 @@ final class ImproveEdgesTest {
             }
             check.due(n + " of 24 go: improve()", x.improve(), n);
             check.due(n + " of 24 go: size()", x.size(), 24 - n);
-            countsDue(n + " of 24 go", x, n, n, n);
+            Desk.countsDue(check, n + " of 24 go", x, n, n, n);
             check.due("improve() again", x.improve(), 0);
         }
     }
@@ -492,15 +511,11 @@ final class ImproveEdgesTest {
         x.run(1);
         x.improve();
         check.due("result(1)", x.result(1), 3 + 8);
-        for (int what = 2; what <= 11; what++) {
-            check.due("result(" + what + ")", x.result(what), what + 2);
-        }
+        Desk.experienceDue(check, "the latest run", x, 2);
         check.due("result(12)", x.result(12), 0);
         check.due("result(13)", x.result(13), 1);
         x.run(0);
-        for (int what = 1; what <= 11; what++) {
-            check.due("run(0), result(" + what + ")", x.result(what), what + 2);
-        }
+        Desk.experienceDue(check, "run(0)", x, 1);
         check.due("run(0), result(12)", x.result(12), 1);
     }
 
@@ -508,8 +523,8 @@ final class ImproveEdgesTest {
 
     private static void countOfANewObject() {
         check.sentence("Promise 14: Of all improving since the beginning (of none)");
-        countsDue("new", new RowImprover(), 0, 0, 0);
-        countsDue("typed", Desk.repeated(24, Desk.ADD, 1, 1, 0), 0, 0, 0);
+        Desk.countsDue(check, "new", new RowImprover(), 0, 0, 0);
+        Desk.countsDue(check, "typed", Desk.repeated(24, Desk.ADD, 1, 1, 0), 0, 0, 0);
     }
 
     private static void countOfRows() {
@@ -517,14 +532,14 @@ final class ImproveEdgesTest {
                 + " nothing");
         RowImprover nothing = Desk.typed(Desk.ADD, 1, 1, 0);
         nothing.improve();
-        countsDue("one by nothing", nothing, 1, 1, 1);
+        Desk.countsDue(check, "one by nothing", nothing, 1, 1, 1);
         RowImprover one = Desk.typed(Desk.XOR, 1, 1, 1, Desk.AND, 1, 1, 1);
         one.improve();
-        countsDue("one by one", one, 1, 0, 2);
+        Desk.countsDue(check, "one by one", one, 1, 0, 2);
         RowImprover both = Desk.typed(Desk.XOR, 1, 1, 1, Desk.AND, 1, 1, 1, Desk.STORE, 1, 0, 0,
                 Desk.ADD, 2, 2, 0, Desk.STORE, 1, 0, 1, Desk.ADD, 3, 3, 0, Desk.ADD, 3, 3, 0);
         both.improve();
-        countsDue("one by one, two by nothing", both, 3, 2, 2 + 1 + 1);
+        Desk.countsDue(check, "one by one, two by nothing", both, 3, 2, 2 + 1 + 1);
     }
 
     private static void countOfCandidates() {
@@ -532,13 +547,13 @@ final class ImproveEdgesTest {
                 + " at");
         RowImprover one = Desk.typed(Desk.ADDN, 1, 1, 1);
         one.improve();
-        countsDue("nothing for one", one, 0, 0, 1);
+        Desk.countsDue(check, "nothing for one", one, 0, 0, 1);
         RowImprover two = Desk.typed(Desk.ADDN, 1, 1, 1, Desk.ADDN, 2, 2, 1);
         two.improve();
-        countsDue("all for two", two, 0, 0, all(3) + 1 + 1);
+        Desk.countsDue(check, "all for two", two, 0, 0, all(3) + 1 + 1);
         RowImprover found = Desk.typed(Desk.OR, 1, 3, 3, Desk.OR, 1, 1, 1);
         found.improve();
-        countsDue("up to the one that does", found, 1, 0, 1 + 4);
+        Desk.countsDue(check, "up to the one that does", found, 1, 0, 1 + 4);
     }
 
     private static void countSinceTheBeginning() {
@@ -548,9 +563,9 @@ final class ImproveEdgesTest {
             Desk.type(x, Desk.XOR, 1, 1, 1, Desk.AND, 1, 1, 1, Desk.STORE, 1, 0, 0,
                     Desk.ADD, 2, 2, 0);
             x.improve();
-            countsDue("round " + round, x, 2 * round, round, 3 * round);
+            Desk.countsDue(check, "round " + round, x, 2 * round, round, 3 * round);
             x.clear();
-            countsDue("cleared " + round, x, 2 * round, round, 3 * round);
+            Desk.countsDue(check, "cleared " + round, x, 2 * round, round, 3 * round);
         }
     }
 
@@ -565,7 +580,7 @@ final class ImproveEdgesTest {
         x.replace(0, Desk.ADD, 1, 0, 1);
         check.thrown("a wrong add", Desk.ARGUMENT, () -> x.add(16, 0, 0, 0));
         check.thrown("a wrong same", Desk.INDEX, () -> x.same(1, 3, 0, 0, 15) ? 1 : 0);
-        countsDue("no improving", x, 0, 0, 0);
+        Desk.countsDue(check, "no improving", x, 0, 0, 0);
     }
 
     private static void countOfAnotherWhat() {

@@ -4,7 +4,7 @@ import java.util.function.LongSupplier;
 final class ModelTest {
     private static final int OBJECTS = 300;
     /** Of an object's 512 calls the last ones are kept for reading a program behind improve. */
-    private static final int CALLS = 512 - 100;
+    private static final int CALLS = 512 - 101;
 
     private static final Check check = new Check();
 
@@ -26,6 +26,7 @@ final class ModelTest {
             while (test.made < CALLS) {
                 test.call();
             }
+            test.callUpTo512();
         }
         check.end();
     }
@@ -76,6 +77,15 @@ final class ModelTest {
         int s = noRegisters ? 0 : below(3) == 0 ? d : mostly(0, 3);
         return new int[] {below(60) == 0 ? mostly(0, 15) : operation, d, s,
                 operation == 15 && below(40) > 0 ? 0 : t};
+    }
+
+    /** An object is used for at most 512 calls: the very last one is still answered as due. */
+    private void callUpTo512() {
+        while (made < 511) {
+            int what = made % 14;
+            compare("result(" + what + ")", () -> x.result(what), () -> model.result(what));
+        }
+        compare("improve()", () -> x.improve(), () -> model.improve());
     }
 
     private void call() {

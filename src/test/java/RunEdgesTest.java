@@ -218,9 +218,7 @@ final class RunEdgesTest {
             RowImprover x = Desk.experienced();
             check.due("run(" + limit + ") of none", x.run(limit), 0);
             endDue("run(" + limit + ") of none", x, 1, 0);
-            for (int what = 1; what <= 11; what++) {
-                check.due("result(" + what + ")", x.result(what), what + 2);
-            }
+            Desk.experienceDue(check, "run(" + limit + ") of none", x, 1);
         }
     }
 
@@ -400,7 +398,7 @@ final class RunEdgesTest {
     }
 
     private static void bitByBit() {
-        check.sentence("Promise 8: AND, OR, XOR: bit by bit .. ANDN. XORN: likewise.");
+        check.sentence("Promise 8: 2 AND, 3 OR, 4 XOR: bit by bit. .. 7 ANDN. 8 XORN: likewise.");
         for (int operation : new int[] {Desk.AND, Desk.ANDN}) {
             afterDue(operation, 15, 15, 15);
             afterDue(operation, 15, 0, 0);
