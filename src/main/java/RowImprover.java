@@ -51,7 +51,7 @@ public final class RowImprover {
         machine = new Machine();
         liveness = new Liveness();
         prover = new Prover();
-        improver = new Improver(program, liveness, prover);
+        improver = new Improver();
     }
 
     public int add(int operation, int d, int s, int t)
@@ -147,7 +147,7 @@ public final class RowImprover {
     }
 
     public int improve() {
-        return improver.improveProgram();
+        return improver.improveProgram(program);
     }
 
     public int count(int what) {
@@ -640,20 +640,13 @@ public final class RowImprover {
         /** The numbers 0, 1 and 15 are tried in every row. */
         private static final int NUMBERS_ALWAYS = 1 << 0 | 1 << 1 | 1 << 15;
 
-        private final Program program;
-        private final Liveness liveness;
-        private final Prover prover;
+        private final Liveness liveness = new Liveness();
+        private final Prover prover = new Prover();
         private final Row row = new Row();
         private final Row candidate = new Row();
         private int replaced;
         private int byNothing;
         private int lookedAt;
-
-        Improver(Program program, Liveness liveness, Prover prover) {
-            this.program = program;
-            this.liveness = liveness;
-            this.prover = prover;
-        }
 
         int counted(int what) {
             switch (what) {
@@ -668,19 +661,19 @@ public final class RowImprover {
             }
         }
 
-        int improveProgram() {
+        int improveProgram(Program program) {
             int lengthBefore = program.length();
             liveness.findFor(program);
             int place = 0;
             // Every step goes on behind at least one of the instructions that were there.
             for (int step = 0; step < MOST_INSTRUCTIONS && program.has(place); step++) {
-                place = improveAt(place);
+                place = improveAt(program, place);
             }
             return lengthBefore - program.length();
         }
 
         /** Answers the place where one goes on. */
-        private int improveAt(int place) {
+        private int improveAt(Program program, int place) {
             for (int n = LONGEST_ROW; n >= 1; n--) {
                 if (program.hasRow(place, n)) {
                     row.takeFrom(program, place, n);
@@ -690,14 +683,14 @@ public final class RowImprover {
                         found = n > 1 ? firstInstruction(compared) : NOT_FOUND;
                     }
                     if (found != NOT_FOUND) {
-                        return place + putForRow(place, n, found);
+                        return place + putForRow(program, place, n, found);
                     }
                 }
             }
             return place + 1;
         }
 
-        private int putForRow(int place, int n, int replacement) {
+        private int putForRow(Program program, int place, int n, int replacement) {
             replaced++;
             if (replacement == NOTHING) {
                 byNothing++;

@@ -29,6 +29,7 @@ final class FaceTest {
     public static void main(String[] args) {
         methods();
         fieldsAndConstructors();
+        classesInside();
         check.end();
     }
 
@@ -76,5 +77,26 @@ final class FaceTest {
         check.due("constructors", constructors.length, 1);
         check.due("parameters of it", constructors[0].getParameterCount(), 0);
         check.due("it is public", Modifier.isPublic(constructors[0].getModifiers()), true);
+    }
+
+    private static void classesInside() {
+        Class<?>[] inside = RowImprover.class.getDeclaredClasses();
+        check.due(inside.length + " classes inside are at most 11", inside.length <= 11, true);
+        for (Class<?> one : inside) {
+            String name = one.getSimpleName();
+            check.due(name + " is static", Modifier.isStatic(one.getModifiers()), true);
+            check.due(name + " is public or protected",
+                    (one.getModifiers() & (Modifier.PUBLIC | Modifier.PROTECTED)) != 0, false);
+            staticFieldsAreFinal(one);
+        }
+        staticFieldsAreFinal(RowImprover.class);
+    }
+
+    private static void staticFieldsAreFinal(Class<?> one) {
+        for (Field field : one.getDeclaredFields()) {
+            int modifiers = field.getModifiers();
+            check.due(one.getSimpleName() + "." + field.getName() + " is state of the class",
+                    Modifier.isStatic(modifiers) && !Modifier.isFinal(modifiers), false);
+        }
     }
 }
